@@ -908,11 +908,6 @@ public final class PaneSpots {
         final Laws laws;
 
         Chapel() {
-            wide = 4;
-            deep = 4;
-            cloud = 0;
-            guilds = 0;
-            panes = 0;
             name = new long[MOST_GUILDS];
             likes = new int[MOST_GUILDS];
             owes = new int[MOST_GUILDS];
@@ -921,6 +916,7 @@ public final class PaneSpots {
             giver = new int[MOST_PANES];
             colour = new int[MOST_PANES];
             laws = new Laws();
+            begin();
         }
 
         void begin() {
@@ -1205,7 +1201,9 @@ public final class PaneSpots {
 
         Hold() {
             guildOf = new int[MOST_PANES];
-            Arrays.fill(guildOf, NONE);
+            for (int p = 0; p < MOST_PANES; p++) {
+                guildOf[p] = NONE;
+            }
             broken = 0;
             seen = 0;
             seenPlace = new int[MOST_SEEN];

@@ -7,7 +7,8 @@ public final class OracleTest {
     private static final int RUNS = 120;
     private static final int CALLS = 220;
 
-    private final Probe probe = new Probe("OracleTest");
+    private static final Probe PROBE = new Probe("OracleTest");
+
     private final Random random;
     private final int run;
     private PaneSpots spots = new PaneSpots();
@@ -25,11 +26,17 @@ public final class OracleTest {
             OracleTest test = new OracleTest(run);
             test.play();
         }
-        System.out.println("OracleTest: " + runs + " runs as Oracle answers");
+        PROBE.end();
     }
 
     private void play() {
-        tell(new Texts(random).chapel());
+        String text = new Texts(random).chapel();
+        if (run % 3 == 1) {
+            text = Texts.tightened(text, random);
+        } else if (run % 3 == 2) {
+            text = new Texts(random).market();
+        }
+        tell(text);
         for (int n = 0; n < CALLS; n++) {
             int kind = random.nextInt(100);
             if (kind < 3) {
@@ -44,15 +51,14 @@ public final class OracleTest {
                 yearCalls();
             }
         }
-        probe.end();
     }
 
     private void due(String call, long got, long want) {
-        probe.due("run " + run + ": " + call, got, want);
+        PROBE.due("run " + run + ": " + call, got, want);
     }
 
     private void due(String call, boolean got, boolean want) {
-        probe.due("run " + run + ": " + call, got, want);
+        PROBE.due("run " + run + ": " + call, got, want);
     }
 
     private void tell(String text) {

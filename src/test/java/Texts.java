@@ -2,6 +2,8 @@ import java.util.ArrayList;
 import java.util.Collections;
 import java.util.List;
 import java.util.Random;
+import java.util.regex.Matcher;
+import java.util.regex.Pattern;
 
 /** Draws texts of chapels, right ones and spoilt ones. */
 final class Texts {
@@ -95,8 +97,10 @@ final class Texts {
 
     private String rent() {
         String[] facts = {"week", "hour", "x", "y", "mixed"};
-        return switch (random.nextInt(5)) {
+        return switch (random.nextInt(7)) {
             case 0 -> "2 + mixed * 3";
+            case 4 -> "mixed * mixed * 9";
+            case 5 -> "mixed * mixed * mixed";
             case 1 -> "x * 5 - y + week";
             case 2 -> "7 - 2 * mixed";
             case 3 -> "( x + 1 ) * ( hour + 1 ) * 30";
@@ -110,7 +114,7 @@ final class Texts {
         Collections.shuffle(names, random);
         int guilds = random.nextInt(8) == 0 ? 0 : 1 + random.nextInt(6);
         for (int g = 0; g < guilds; g++) {
-            int owes = random.nextInt(one("1", "60", "600", "10000").equals("1") ? 1 : 1 + random.nextInt(9999));
+            int owes = random.nextInt(Integer.parseInt(one("1", "100", "600", "3000", "10000")));
             lines.add("guild " + names.get(g) + " likes " + random.nextInt(8) + " owes " + owes + " ;");
         }
         List<Integer> places = new ArrayList<>();
@@ -150,6 +154,36 @@ final class Texts {
         return String.join(one(" ", "\n", "  ", ""), lines());
     }
 
+    /** Panes that give nearly alike, so that many EXCHANGES are FAIR and many as good as others. */
+    String market() {
+        StringBuilder text = new StringBuilder("floor 8 4 ; east 0 ; deep row ; dark hour < 12 or 12 < hour ; ");
+        text.append(one("", "rent x + 1 ; ", "rent x * y + 5 ; ", "rent 9 - ( x = 2 ) ; "));
+        int guilds = 2 + random.nextInt(5);
+        for (int g = 0; g < guilds; g++) {
+            text.append("guild ").append(NAMES[g]).append(" likes ").append(one("6", "5", "3", "7", "1", "4")).append(" owes 0 ; ");
+        }
+        for (int p = 0; p < 12; p++) {
+            text.append("pane ").append(p % 8).append(' ').append(p / 8).append(" of ").append(NAMES[random.nextInt(guilds)])
+                .append(" colour ").append(one("1", "2", "4", "3")).append(" ; ");
+        }
+        return text.toString();
+    }
+
+    /** The same text, but that each GUILD owes about what it has, so that some fall by others. */
+    static String tightened(String text, Random random) {
+        PaneSpots spots = new PaneSpots();
+        if (Probe.tell(spots, text) != 0) {
+            return text;
+        }
+        Matcher owing = Pattern.compile("owes [0-9]+").matcher(text);
+        StringBuilder tight = new StringBuilder();
+        for (int g = 0; owing.find(); g++) {
+            int owes = spots.rents(g) * (90 + random.nextInt(12)) / 100;
+            owing.appendReplacement(tight, "owes " + Math.min(owes, 9999));
+        }
+        return owing.appendTail(tight).toString();
+    }
+
     /** A text with something wrong in it, most times. */
     String spoilt() {
         List<String> lines = lines();
@@ -159,6 +193,10 @@ final class Texts {
         List<String> tokens = new ArrayList<>(List.of(String.join(" ", lines).split(" ")));
         for (int n = random.nextInt(3); n >= 0; n--) {
             int at = random.nextInt(tokens.size());
+            if (tokens.get(at).matches("[0-9]+") && random.nextBoolean()) {
+                tokens.set(at, one("0", "3", "4", "7", "8", "9", "10"));
+                continue;
+            }
             switch (random.nextInt(4)) {
                 case 0 -> tokens.remove(at);
                 case 1 -> tokens.add(at, one(PIECES));
