@@ -27,6 +27,7 @@ public final class PromisesTest {
         bestOfEqualOnes();
         exchangeAndBreaks();
         falls();
+        sixRounds();
         undo();
         stall();
         stallWhereNothingIsOwned();
@@ -63,7 +64,9 @@ public final class PromisesTest {
         due("new, falls", x.falls(0), NONE);
         due("new, when", x.when(2), 1248);
         due("new, undo", x.undo(), false);
-        due("new, mark", x.mark(1, true), false);
+        for (int mark = 0; mark < 4; mark++) {
+            due("new, mark " + mark, x.mark(mark, true), false);
+        }
         due("new, see", x.see(3, 3, 7), 1);
         due("new, stains", x.stains(0, 0, 2, 0), 16 + 2 * 24);
         due("new, stood", x.stood(0, 0, 2, 0, 1, true), 0);
@@ -227,7 +230,7 @@ public final class PromisesTest {
         due("below the floor", deepOf("0 - 1", 0, 0), NONE);
         due("four levels", deepOf("( ( ( not 0 ) ) ) + ( ( ( ( 2 ) ) ) )", 0, 0), 3);
         due("0007 is 7", deepOf("0007", 0, 0), 7);
-        PaneSpots x = PROBE.told("floor 8 4 ; guild a likes 0 owes 0 ; pane 0 3 of a colour 1 ;");
+        PaneSpots x = PROBE.told("floor 8 4 ; guild az likes 0 owes 0 ; pane 0 3 of az colour 1 ;");
         due("without lines, hour 12", x.spot(0, 0, 12), 24);
         due("without lines, hour 18", x.spot(0, 0, 18), 30);
         due("without lines, hour 19", x.spot(0, 0, 19), NONE);
@@ -402,6 +405,20 @@ public final class PromisesTest {
         due("two panes: it has enough", two.fallen(), 0);
         two.breaks(0, false);
         due("one broken, the other gives light still", two.falls(0), 1);
+    }
+
+    /** Six panes on one place give 60 each, five 50, and so on: each GUILD falls by the one ahead of it. */
+    private static void sixRounds() {
+        StringBuilder text = new StringBuilder("floor 1 1 ; east 0 - column ; deep 0 ; dark hour ; rent mixed * mixed * 10 ;");
+        for (int g = 0; g < 6; g++) {
+            text.append(" guild ").append((char) ('u' + g)).append(" likes 0 owes ").append((6 - g) * 520 + 1).append(" ;")
+                .append(" pane ").append(g).append(" 0 of ").append((char) ('u' + g)).append(" colour 1 ;");
+        }
+        PaneSpots x = PROBE.told(text.toString());
+        due("all six", x.fallen(), 63);
+        for (int g = 0; g < 6; g++) {
+            due("six rounds, " + g, x.falls(g), g + 1);
+        }
     }
 
     // Promise 17
@@ -604,6 +621,7 @@ public final class PromisesTest {
             due("rents know of no cloud", x.rents(0), 6);
         }
         PaneSpots x = PROBE.told(text + "1 ;");
+        due("seed 0 is one", cloudedOf(x, 0, 0) >= 0, true);
         due("the first draw of seed 0 is 0", cloudedOf(x, 0, 0) < 6, true);
         due("seed 9999", cloudedOf(x, 9999, 0) >= 0, true);
         due("guild without a pane", cloudedOf(x, 1, 1), 0);
@@ -642,6 +660,17 @@ public final class PromisesTest {
         due("nothing can be undone again", x.count(5), 0);
         due("the other", x.mark(0, true), true);
         due("its seen", x.count(6), 2);
+        due("what it saw", x.candles(0, 12), 1);
+        x.clear();
+        x.see(2, 1, 5);
+        x.see(0, 0, 2);
+        x.mark(0, true);
+        due("what it saw first", x.candles(0, 12), 1);
+        x.clear();
+        x.see(0, 0, 7);
+        x.see(0, 0, 1);
+        x.mark(0, true);
+        due("what it saw then", x.candles(0, 12), 1);
         due("its owner", x.pane(0, 2), 0);
         x.breaks(1, false);
         due("laid anew", x.mark(3, false), true);
