@@ -20,6 +20,7 @@ public final class BoundsChapelTest {
         onceEach();
         names();
         grammarOfE();
+        longestE();
         withinFive();
         factsOfEachLaw();
         oneOrZero();
@@ -28,7 +29,9 @@ public final class BoundsChapelTest {
         theEndIsAToken();
         firstAndLeast();
         allStaysBehindAFault();
+        nothingOfOtherTexts();
         fromThenOn();
+        otherLawsFromThenOn();
         PROBE.end();
     }
 
@@ -264,12 +267,33 @@ public final class BoundsChapelTest {
         value("not 0 + 1", 2);
         value("not ( 0 + 1 )", 0);
         value("( 1 or 0 ) * 7", 7);
+        value("2 + not 0", 3);
+        value("2 + not 5", 2);
+        value("3 * not 0 + 4 * not 9", 3);
         PROBE.fault(1, "rent not |;");
         PROBE.fault(1, "rent ( |) ;");
         PROBE.fault(1, "rent ( 1 |;");
         PROBE.fault(1, "rent 1 |) ;");
         PROBE.fault(1, "rent 1 |not 1 ;");
         PROBE.fault(1, "rent |gg ;");
+    }
+
+    /** An E that fills the TAPE, again and again, and one that leaves as much open as can be. */
+    private static void longestE() {
+        PROBE.says("E: any number of TESTS, PRODUCTS and PARTS that the TAPE has room for");
+        PaneSpots x = new PaneSpots();
+        String text = "floor 1 1;guild a likes 0 owes 0;pane 0 0 of a colour 1;east 0;deep 0;dark week or hour;rent 1";
+        String[] joins = {"+1", "*1", " or 0", "-0"};
+        for (int n = 0; n < 8; n++) {
+            String join = joins[n % 4];
+            int times = (999 - text.length()) / join.length();
+            PROBE.due("a full tape of " + join, Probe.tell(x, text + join.repeat(times) + ";"), 0);
+            PROBE.due("its value", x.yields(0), n % 4 == 0 ? 1 + times : 1);
+        }
+        String open = "0 or 0 < 0 + 1 * ( ";
+        for (int inner = 0; inner <= 1; inner++) {
+            value(open.repeat(4) + "0 or 0 < 0 + 1 * " + inner + " ) ) ) )", inner);
+        }
     }
 
     /** Each row of five of not and ( ): a PART may lie within its first four, not within all. */
@@ -442,6 +466,47 @@ public final class BoundsChapelTest {
         PROBE.due("yields", x.yields(0), 7 * 1248);
         PROBE.due("candles", x.candles(0, 0), 1);
         PROBE.due("mark", x.mark(2, true), true);
+    }
+
+    /** One object reads many texts: none knows of those before it, be they right or wrong. */
+    private static void nothingOfOtherTexts() {
+        PROBE.says("(4 and 4 without), (0 without), Without a line: of this text, whatever was read before");
+        String full = "floor 8 7 ; guild gg likes 7 owes 9 ; pane 0 0 of gg colour 7 ; east 1 ; deep 1 ; dark 1 ; rent 9 ; cloud 5 ; ";
+        PaneSpots x = new PaneSpots();
+        for (int n = 0; n < 3; n++) {
+            PROBE.due("a full one", Probe.tell(x, full), 0);
+            PROBE.due("a faulty one", Probe.tell(x, full + "!"), 1 + 16 * full.length());
+            PROBE.due("its guild is not told", Probe.tell(x, "pane 0 0 of gg colour 1 ;"), 2 + 16 * 12);
+            PROBE.due("the full one stays", x.count(0) * 100 + x.count(2) * 10 + x.count(3), 811);
+            PROBE.due("a bare one", Probe.tell(x, "guild hh likes 0 owes 0 ; pane 0 0 of hh colour 1 ;"), 0);
+            PROBE.due("floor, guilds, panes, cloud", x.count(0) * 10000 + x.count(1) * 1000 + x.count(2) * 100 + x.count(3) * 10 + x.count(7), 44110);
+            PROBE.due("dark, east, deep without a line", x.spot(0, 0, 13), 1);
+            PROBE.due("rent without a line, from 12 to 15", x.yields(0), 4 * 52);
+            for (int m = 0; m <= n; m++) {
+                PROBE.due("an empty one", x.chapel(), 0);
+                PROBE.due("nobody", x.count(2) + x.count(3), 0);
+            }
+        }
+    }
+
+    private static void otherLawsFromThenOn() {
+        PROBE.says("Without a FAULT it is the CHAPEL from then on");
+        String text = "floor 8 8 ; guild a likes 0 owes 1000 ; pane 0 0 of a colour 1 ; dark hour ; ";
+        PaneSpots x = PROBE.told(text + "east 1 ; deep 2 ; rent 10 ;");
+        x.see(3, 4, 1);
+        int[] before = {x.spot(0, 0, 0), x.yields(0), x.fallen(), x.stall(0, 0, 0, 0, 0), x.stains(0, 0, 1, 1), x.candles(0, 0)};
+        int[] due = {17, 520, 1, 17, 1, 1};
+        for (int i = 0; i < due.length; i++) {
+            PROBE.due("before, " + i, before[i], due[i]);
+        }
+        PROBE.due("the same pane, by other laws", Probe.tell(x, text + "east 3 ; deep 4 ; rent 20 ;"), 0);
+        PROBE.due("spot", x.spot(0, 0, 0), 35);
+        PROBE.due("place", x.place(1, 2, 0, 0, 2), 0);
+        PROBE.due("yields", x.yields(0), 1040);
+        PROBE.due("fallen", x.fallen(), 0);
+        PROBE.due("stall", x.stall(0, 0, 0, 0, 0), 35);
+        x.see(3, 4, 1);
+        PROBE.due("candles", x.candles(0, 0), 0);
     }
 
     private static void fromThenOn() {

@@ -99,6 +99,12 @@ public final class BoundsDayTest {
         PROBE.due("none behind it", y.stall(1, 51, 0, 23, 24), NONE);
         PROBE.due("one hour", y.stall(1, 51, 23, 23, 0), 1);
         PROBE.due("none behind that", y.stall(1, 51, 23, 23, 1), NONE);
+        PaneSpots z = moving("8 8", "aa", row(0, 0, 63, 7), row(63, 1, 62, 7));
+        way("the hours behind do not count", z, 0, 0, 0);
+        way("nor when they did before", z, 21, 0, 0, 62, 7);
+        way("two hours again", z, 0, 0, 0);
+        PROBE.due("nor those ahead", z.stall(0, 7, 2, 3, NONE), 7);
+        PROBE.due("one hour, the least place", z.stall(0, 7, 2, 2, 0), 62);
     }
 
     private static void ownedPlaces() {
@@ -397,6 +403,13 @@ public final class BoundsDayTest {
                 PROBE.due("in all, i " + i + " of " + hours, x.stood(0, 24 - hours, hours, colours, i, false), due);
             }
             PROBE.due("beyond hour 23", x.stood(0, 25 - hours, hours, colours, 0, true), NONE);
+        }
+        PaneSpots dark = PROBE.told("floor 2 1 ;");
+        for (int hours = 1; hours <= 6; hours++) {
+            for (int i = -2; i <= 8; i++) {
+                PROBE.due("in dark, i " + i + " of " + hours, dark.stood(0, 0, hours, 0, i, true), i >= 0 && i < hours ? 0 : NONE);
+                PROBE.due("in all, in dark, i " + i + " of " + hours, dark.stood(0, 0, hours, 0, i, false), i >= 0 && i < hours ? 0 : NONE);
+            }
         }
         PROBE.due("0 hours", x.stood(0, 0, 0, 0, 0, true), NONE);
         PROBE.due("7 hours", x.stood(0, 0, 7, 0, 0, true), NONE);

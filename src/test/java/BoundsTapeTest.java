@@ -41,6 +41,9 @@ public final class BoundsTapeTest {
         PROBE.due("a line that just fits", Probe.tell(y, "floor 2 3 ;"), 0);
         PROBE.due("wide", y.count(0), 2);
         PROBE.due("deep", y.count(1), 3);
+        PROBE.due("a number as the last sign", Probe.tell(blank(993), "cloud 1"), 1 + 16 * 1000);
+        PROBE.due("a word as the last sign", Probe.tell(blank(993), "guild a"), 1 + 16 * 1000);
+        PROBE.due("a blank as the last sign", Probe.tell(blank(992), "cloud 1 "), 1 + 16 * 1000);
     }
 
     private static void whatIsBeyondIsLeftOut() {
@@ -115,6 +118,10 @@ public final class BoundsTapeTest {
         PROBE.due("a fault", Probe.tell(x, "cloud 9 ;"), 4 + 16 * 6);
         PROBE.due("empty behind a fault", x.count(8), 0);
         PROBE.due("places count from 0 again", Probe.tell(x, "cloud 9 ;"), 4 + 16 * 6);
+        PROBE.due("nothing of a longer text is left behind its end", Probe.tell(x, "cloud 1234 ; rent 5 ;"), 4 + 16 * 6);
+        PROBE.due("a number at the end", Probe.tell(x, "cloud 1"), 1 + 16 * 7);
+        PROBE.due("a word at the end", Probe.tell(x, "cloud 1 ; re"), 1 + 16 * 10);
+        PROBE.due("a sign at the end", Probe.tell(x, "rent 1 ;"), 0);
         PROBE.due("empty, it is a chapel", x.chapel(), 0);
         PROBE.due("without a cloud", x.count(7), 0);
     }

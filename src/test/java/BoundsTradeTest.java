@@ -144,6 +144,11 @@ public final class BoundsTradeTest {
         PROBE.due("1 with 2", x.gain(1, 2), 26);
         PROBE.due("two are better than one", x.best(NONE), 61);
         row(x, 1, 0, 3, 2);
+        // 1 with 2 would be better than 2 with 3, but that 0 has 1 then
+        PaneSpots w = market("abab", 20, 12, 15, 10);
+        PROBE.due("0 and 3: as much to both is not fair", w.gain(0, 3), 0);
+        PROBE.due("0 with 1, 2 with 3", w.best(NONE), 57);
+        row(w, 1, 0, 3, 2);
         PaneSpots y = market("abaaa", 9, 10, 12, 11, 12);
         PROBE.due("one pane is wanted by four", y.best(NONE), 22);
         row(y, 0, 2, 1, 3, 4);
@@ -290,6 +295,11 @@ public final class BoundsTradeTest {
         PaneSpots one = PROBE.told(TOGETHER + poor("a", 261) + poor("b", 260) + panes);
         PROBE.due("the first alone", one.fallen(), 1);
         PROBE.due("the other stands", one.falls(1), 0);
+        // c has 520 as long as one of a and b gives light, 468 when both are dark
+        PaneSpots three = PROBE.told(TOGETHER + poor("a", 521) + poor("b", 521) + poor("c", 520) + "pane 0 0 of a colour 1 ;"
+            + " pane 1 0 of b colour 1 ; pane 2 0 of c colour 1 ; rent mixed * 10 - ( mixed = 1 ) ;");
+        PROBE.due("a and b", three.falls(0) * 10 + three.falls(1), 11);
+        PROBE.due("then c", three.falls(2), 2);
         // by b's light alone a has 780, of which nothing is left when b falls
         String more = "pane 0 0 of a colour 1 ; pane 1 0 of b colour 1 ; rent ( mixed = 2 ) * 30 ;";
         PaneSpots after = PROBE.told(TOGETHER + poor("a", 780) + poor("b", 781) + more);
