@@ -21,6 +21,7 @@ public final class BoundsLightTest {
         cutPart();
         allTimesOfAYear();
         asBrokenNow();
+        asBrokenInEachChapel();
         yields();
         rents();
         PROBE.end();
@@ -308,19 +309,27 @@ public final class BoundsLightTest {
         PROBE.due("mended", x.yields(0), 3 * 1248);
         x.mark(0, true);
         PROBE.due("gone back", x.yields(1), 7 * 1248);
-        // more ways of being broken than any row of years kept can hold, forth and back
-        PaneSpots many = PROBE.told("floor 8 1 ; " + GUILD + "pane 0 0 of gg colour 1 ; pane 1 0 of gg colour 1 ; pane 2 0 of gg colour 1 ;"
-            + " pane 3 0 of gg colour 1 ; pane 4 0 of gg colour 1 ; east 0 ; dark hour ; rent x + 1 ;");
-        int broken = 0;
-        for (int n = 1; n < 64; n++) {
-            int pane = Integer.numberOfTrailingZeros(n) % 5;
-            many.breaks(pane, (broken >> pane & 1) == 1);
-            broken ^= 1 << pane;
-            int due = 0;
-            for (int p = 0; p < 5; p++) {
-                due += (broken >> p & 1) == 1 ? 0 : (p + 1) * 52;
+    }
+
+    /** More ways of being broken than any row of years kept can hold, forth and back, in one chapel and then in another. */
+    private static void asBrokenInEachChapel() {
+        PROBE.says("YIELD of a pane: as panes are BROKEN now, in the CHAPEL from then on");
+        PaneSpots x = new PaneSpots();
+        for (int times = 1; times <= 3; times++) {
+            PROBE.due("told", Probe.tell(x, "floor 8 1 ; " + GUILD + "pane 0 0 of gg colour 1 ; pane 1 0 of gg colour 1 ;"
+                + " pane 2 0 of gg colour 1 ; pane 3 0 of gg colour 1 ; pane 4 0 of gg colour 1 ; east 0 ; dark hour ;"
+                + " rent ( x + 1 ) * " + times + " ;"), 0);
+            int broken = 0;
+            for (int n = 1; n < 64; n++) {
+                int pane = Integer.numberOfTrailingZeros(n) % 5;
+                x.breaks(pane, (broken >> pane & 1) == 1);
+                broken ^= 1 << pane;
+                int due = 0;
+                for (int p = 0; p < 5; p++) {
+                    due += (broken >> p & 1) == 1 ? 0 : (p + 1) * times * 52;
+                }
+                PROBE.due("rents with " + broken + " broken", x.rents(0), due);
             }
-            PROBE.due("rents with " + broken + " broken", many.rents(0), due);
         }
     }
 
