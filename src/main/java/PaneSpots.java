@@ -510,9 +510,11 @@ public final class PaneSpots {
             if (at >= size) {
                 kind = END;
             } else if (isLetter(signs[at])) {
-                nextWord();
+                takeLetters();
+                kind = at - start > LONGEST_WORD ? NO_TOKEN : kindOfWord();
             } else if (isDigit(signs[at])) {
-                nextNumber();
+                takeDigits();
+                kind = at - start > LONGEST_NUMBER ? NO_TOKEN : NUMBER;
             } else {
                 kind = SIGNS.indexOf((char) signs[at]) >= 0 ? signs[at] : NO_TOKEN;
                 at++;
@@ -527,23 +529,21 @@ public final class PaneSpots {
             return kind >= WEEK && kind <= MIXED;
         }
 
-        private void nextWord() {
+        private void takeLetters() {
             // Five bits a letter tell words of up to eight letters apart.
             word = 0;
             while (at < size && isLetter(signs[at])) {
                 word = word * 32 + (signs[at] - 'a' + 1);
                 at++;
             }
-            kind = at - start > LONGEST_WORD ? NO_TOKEN : kindOfWord();
         }
 
-        private void nextNumber() {
+        private void takeDigits() {
             number = 0;
             while (at < size && isDigit(signs[at])) {
                 number = number * 10 + (signs[at] - '0');
                 at++;
             }
-            kind = at - start > LONGEST_NUMBER ? NO_TOKEN : NUMBER;
         }
 
         private int kindOfWord() {
@@ -708,9 +708,10 @@ public final class PaneSpots {
             int bad = takeNumber(0, 7);
             if (bad == 0) {
                 draft.column[pane] = taken;
-                bad = takeRow(pane);
+                bad = isRowOfPane(taken) ? TOLD_ALREADY : takeNumber(0, 3);
             }
             if (bad == 0) {
+                draft.row[pane] = taken;
                 bad = take(Tape.OF);
             }
             if (bad == 0) {
@@ -732,15 +733,8 @@ public final class PaneSpots {
             return bad;
         }
 
-        private int takeRow(int pane) {
-            if (tape.kind == Tape.NUMBER && draft.hasPaneAt(draft.column[pane], tape.number)) {
-                return TOLD_ALREADY;
-            }
-            int bad = takeNumber(0, 3);
-            if (bad == 0) {
-                draft.row[pane] = taken;
-            }
-            return bad;
+        private boolean isRowOfPane(int column) {
+            return tape.kind == Tape.NUMBER && draft.hasPaneAt(column, tape.number);
         }
 
         private int takeGiver(int pane) {
@@ -838,7 +832,12 @@ public final class PaneSpots {
             tape.next();
             if (kind == '(') {
                 int bad = readE(depth + 1);
-                return bad == 0 ? take(')') : bad;
+                if (bad != 0 || tape.kind != ')') {
+                    return bad != 0 ? bad : CANT_STAND;
+                }
+                // take would do the same, but a call deeper than rule 11 of the language lets one go.
+                tape.next();
+                return 0;
             }
             int bad = kind == Tape.NOT ? readPart(depth + 1) : 0;
             draft.laws.add(kind == Tape.NUMBER ? number : -kind);

@@ -1,4 +1,3 @@
-import java.io.IOException;
 import java.lang.reflect.Constructor;
 import java.lang.reflect.Field;
 import java.lang.reflect.Method;
@@ -18,7 +17,7 @@ public final class FaceTest {
 
     private static int wrong;
 
-    public static void main(String[] args) throws IOException {
+    public static void main(String[] args) {
         methods();
         fieldsAndConstructors();
         classesInside();
